@@ -644,9 +644,9 @@ public final class PawnLane {
     }
 
     private void tell(long above, long below) {
-        long divisor = commonDivisor(above, below);
-        numerator = divisor > 1L ? above / divisor : above;
-        denominator = divisor > 1L ? below / divisor : below;
+        long divisor = Math.max(1L, commonDivisor(above, below));
+        numerator = above / divisor;
+        denominator = below / divisor;
     }
 
     private int toldOfShop(int s, int what) {
@@ -1387,7 +1387,6 @@ public final class PawnLane {
 
         /** For each set: how many are REDEEMED, at the fewest, till the wanted ones are. */
         void measureTo(int wanted) {
-            Arrays.fill(bySet, FAR);
             for (int set = pawned; set >= 0; set--) {
                 if ((wanted & ~set) == 0) {
                     bySet[set] = 0;

@@ -97,6 +97,12 @@ public final class DeedsTest {
         due.is("undo(39)", x.undo(39), 1);
         due.is("room for one", x.week(), 1);
         due.is("and no more", x.week(), -2);
+        x.undo(39);
+        due.is("room for a PAWNED one", x.pawn(1, 0, 1), 2);
+        x.undo(39);
+        due.is("room for a REDEEMED one", x.redeem(0), 1);
+        x.undo(39);
+        due.is("room for a GIVEN one", x.give(0, 1), 49);
     }
 
     private static void undo() {
@@ -152,6 +158,14 @@ public final class DeedsTest {
         x.undo(0);
         due.is("on(2) anew", x.on(2), 3);
         due.is("on(0) still", x.on(0), 2);
+        long still = x.digest();
+        x.undo(0);
+        x.give(2, 7);
+        x.give(2, 8);
+        due.is("on(0) with other DEEDS since", x.on(0), 2);
+        due.is("undo(1) of the kept ones", x.undo(1), 1);
+        x.week();
+        due.is("as it was", x.digest(), still);
         due.finds("on(1)", x, x.on(1), 1);
         int[] bad = {-1, 3, Integer.MAX_VALUE, Integer.MIN_VALUE};
         for (int k : bad) {

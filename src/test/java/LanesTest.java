@@ -78,7 +78,9 @@ public final class LanesTest {
         due.is("count(0)", x.count(0), 3);
         x.give(0, 5);
         x.week();
+        x.keep(0);
         x.keep(1);
+        x.keep(2);
         Due.write(x, 0, "s00s00 x");
         long before = x.digest();
         due.is("lane of a FAULT", x.lane(0), -4);
@@ -161,6 +163,8 @@ public final class LanesTest {
         }
         due.is("mark(6, 1)", x.mark(6, 1), -1);
         due.is("mark(-1, 1)", x.mark(-1, 1), -1);
+        PawnLane v = Due.lane("s90v00s90 t011 t211");
+        due.is("a VULTURE of two that can be", v.mark(1, 5), 2);
         PawnLane y = Due.lane("h00s00s00w00 t101 t202 t303");
         due.is("a HAWK of three", y.mark(0, 2), 6);
         PawnLane z = Due.lane("w00s00s00a00 t101 t202 t031 t307");

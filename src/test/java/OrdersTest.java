@@ -50,6 +50,10 @@ public final class OrdersTest {
         due.is("can of none", y.can(), 0);
         due.told("least of none", y, y.least(), 0, 0);
         due.is("till of none", y.till(), 20);
+        PawnLane z = Due.lane("s50s00 t014");
+        due.is("can()", z.can(), 1);
+        z.redeem(0);
+        due.is("can() then", z.can(), 0);
     }
 
     private static void noWay() {
@@ -78,6 +82,8 @@ public final class OrdersTest {
         due.told("to the innermost", x, x.least(), 5, 2);
         PawnLane y = Due.lane("s00s00s00 t023 t123");
         due.told("two that lack, none pays", y, y.least(), NONE, 0);
+        PawnLane u = Due.lane("s20s20s00 t023 t123");
+        due.told("two that lack one each", u, u.least(), NONE, 0);
         PawnLane z = Due.lane("s00s00 t015 t105");
         due.told("the first of as many", z, z.least(), 5, 0);
         PawnLane w = Due.lane("s00v00 t014");
@@ -126,6 +132,7 @@ public final class OrdersTest {
         due.is("with a WIDOW", Due.lane("s90w00 t014").till(), 11);
         due.is("with an AUNT, not yet now", Due.lane("s10a00 t019").till(), 20);
         due.is("with a VULTURE", Due.lane("s90v00 t014").till(), 1);
+        due.is("now alone", Due.lane("s40v00 t014").till(), 0);
         due.is("none of these", Due.lane("s30v00 t014").till(), NONE);
         PawnLane x = Due.lane("s90s00 t014");
         x.week();

@@ -74,6 +74,8 @@ public final class WhoseTest {
         due.is("chalk(0, 2)", x.chalk(0, 2), 1 + 3 + (5 + 4) / 2);
         due.is("chalk(0, 6)", x.chalk(0, 6), 1 + 3 + 4);
         due.is("chalk(3, 6)", x.chalk(3, 6), 9);
+        PawnLane y = Due.lane("s08s01 t011");
+        due.is("the first SHOP in another", y.chalk(1, 1), 5);
         int[] four = {7, 11, 13, 14, 14, 15, 15};
         int[] five = {9, 12, 14, 15, 16, 16, 16};
         for (int n = 0; n <= 6; n++) {
