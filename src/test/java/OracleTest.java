@@ -4,14 +4,21 @@ import java.util.Arrays;
 import java.util.List;
 import java.util.Random;
 
-/** Runs of 512 calls by fixed seeds: each answer of PawnLane is the one of SlowLane, and so is all that is told then. */
+/**
+ * Runs of 512 calls (no more are promised) by fixed seeds: each answer of PawnLane is the one of SlowLane.
+ * Every second call asks what is told, in turn; at the end all of it is.
+ */
 public final class OracleTest {
-    private static final int RUNS = 250;
+    private static final int RUNS = 500;
     private static final int CALLS = 512;
+    private static final int LONGEST_STEP = 140;
     private static final int[] ODD = {-1, 0, 1, 2, 6, 7, 40, 41, 60, 61, 63, 64, 100, Integer.MAX_VALUE, Integer.MIN_VALUE};
     private static final String[] OFTEN = {
         "redeem", "pawn", "week", "give", "lots", "order", "ways", "most", "least", "free", "till", "run", "shuts",
         "missing", "through", "odds", "deep", "rings", "mark", "chalk", "undo", "keep", "on"};
+
+    private static final String[] TOLD = {"digest", "asked", "upper", "lower", "finding"};
+    private static final int TELLS = TOLD.length;
 
     private static final Due due = new Due("OracleTest");
 
@@ -20,6 +27,7 @@ public final class OracleTest {
     private final SlowLane slow = new SlowLane();
     private final List<Method> calls = new ArrayList<>();
     private final int run;
+    private int made = 0;
 
     private OracleTest(int run) {
         this.run = run;
@@ -40,16 +48,21 @@ public final class OracleTest {
     }
 
     private void compare() throws ReflectiveOperationException {
-        int made = 0;
-        while (made < CALLS) {
+        while (made < CALLS - LONGEST_STEP) {
             if (random.nextInt(60) == 0 || made == 0) {
-                made += writeLane();
+                writeLane();
             } else if (random.nextInt(12) == 0) {
-                made += laySets();
+                laySets();
             }
             Method m = pick();
             call(m, arguments(m));
-            made++;
+        }
+        while (made < CALLS - TELLS - 1) {
+            Method m = pick();
+            call(m, arguments(m));
+        }
+        for (int i = 0; i < TELLS; i++) {
+            tell(i);
         }
     }
 
@@ -103,7 +116,7 @@ public final class OracleTest {
         }
     }
 
-    private int writeLane() throws ReflectiveOperationException {
+    private void writeLane() throws ReflectiveOperationException {
         StringBuilder text = new StringBuilder();
         int shops = 2 + random.nextInt(5);
         int rich = 1 + random.nextInt(10);
@@ -127,11 +140,10 @@ public final class OracleTest {
         }
         call(named("fault"), 3);
         call(named("lane"), 3);
-        return text.length() + 3;
     }
 
     /** A ROW of sets that grow one by one, or of SHOPS, as missing() and run() want them. */
-    private int laySets() throws ReflectiveOperationException {
+    private void laySets() throws ReflectiveOperationException {
         int n = 1 + random.nextInt(6);
         boolean sets = random.nextBoolean();
         int r = random.nextInt(6);
@@ -142,7 +154,6 @@ public final class OracleTest {
             call(named("lay"), r, i, sets ? set : random.nextInt(6));
         }
         call(named(sets ? "missing" : "run"), r);
-        return n + 2;
     }
 
     private Method named(String name) {
@@ -155,15 +166,19 @@ public final class OracleTest {
     }
 
     private void call(Method m, Object... args) throws ReflectiveOperationException {
+        answer(m, args);
+        tell(made % TELLS);
+    }
+
+    private void tell(int which) throws ReflectiveOperationException {
+        answer(named(TOLD[which]));
+    }
+
+    private void answer(Method m, Object... args) throws ReflectiveOperationException {
         Method other = SlowLane.class.getDeclaredMethod(m.getName(), m.getParameterTypes());
         long got = ((Number) m.invoke(quick, args)).longValue();
         long want = ((Number) other.invoke(slow, args)).longValue();
-        String call = "run " + run + " " + m.getName() + Arrays.toString(args);
-        due.is(call, got, want);
-        due.is(call + " asked()", quick.asked(), slow.asked());
-        due.is(call + " upper()", quick.upper(), slow.upper());
-        due.is(call + " lower()", quick.lower(), slow.lower());
-        due.is(call + " finding()", quick.finding(), slow.finding());
-        due.is(call + " digest()", quick.digest(), slow.digest());
+        made++;
+        due.is("run " + run + " call " + made + " " + m.getName() + Arrays.toString(args), got, want);
     }
 }
