@@ -8,6 +8,8 @@ import java.nio.file.Path;
 import java.util.Arrays;
 import java.util.Set;
 import java.util.TreeSet;
+import java.util.regex.Matcher;
+import java.util.regex.Pattern;
 
 /** The public face is the document's and no more, and the source keeps to what LANGUAGE.md leaves. */
 public final class FaceTest {
@@ -23,6 +25,9 @@ public final class FaceTest {
         "\\bthrow\\b", "\\bthrows\\b", "\\btry\\b", "\\bcatch\\b", "\\bsynchronized\\b", "\\bassert\\b", "->", "::",
         "static\\s*\\{", "Exact\\b", "\\bprotected\\b", "\\bpackage\\b", "\\bSystem\\.(?!arraycopy)", "\\bvar\\b",
         "\\bdouble\\b", "\\bfloat\\b", "\\bhashCode\\b", "\\btoString\\b"};
+    /** What is called of Java's own library; LANGUAGE.md, rule 4, lists each. */
+    private static final Set<String> LIBRARY = Set.of(
+        "Integer.bitCount", "Integer.numberOfTrailingZeros", "Math.max", "Math.min", "Arrays.fill", "System.arraycopy");
     private static final int LONGEST_METHOD = 60, MOST_PARAMETERS = 7, MOST_CLASSES = 12, MOST_FIELDS = 20;
 
     private static final Due due = new Due("FaceTest");
@@ -102,7 +107,11 @@ public final class FaceTest {
     private static void source() throws IOException {
         String code = Files.readString(Path.of(SOURCE)).replaceAll("(?s)/\\*.*?\\*/", "").replaceAll("//[^\n]*", "");
         for (String word : FORBIDDEN) {
-            due.holds("source without " + word, !java.util.regex.Pattern.compile(word).matcher(code).find());
+            due.holds("source without " + word, !Pattern.compile(word).matcher(code).find());
+        }
+        Matcher call = Pattern.compile("\\b([A-Z]\\w*\\.\\w+)\\(").matcher(code);
+        while (call.find()) {
+            due.holds("the library's " + call.group(1), LIBRARY.contains(call.group(1)));
         }
         int start = -1;
         String[] lines = Files.readString(Path.of(SOURCE)).split("\n");

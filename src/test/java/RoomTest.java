@@ -1,28 +1,91 @@
 import com.sun.management.ThreadMXBean;
 import java.lang.management.ManagementFactory;
+import java.lang.reflect.Array;
+import java.lang.reflect.Field;
+import java.lang.reflect.Modifier;
+import java.util.ArrayList;
+import java.util.List;
 
-/** All calls of a run live in one room: an object is small, and no call makes anything. */
+/** All calls of a run live in one room: an object is of few parts, and no call makes anything. */
 public final class RoomTest {
-    private static final long MOST_BYTES_OF_ONE = 8000;
+    /** The room takes 600,000 objects and 7.3 million fields and elements: so it has place for 5000 lanes at least. */
+    private static final int LANES = 5000, MOST_OBJECTS = 600000 / LANES, MOST_FIELDS = 7300000 / LANES;
+    /** Rounds of every(), some 190 calls each, that stay within the 512 calls that are promised for an object. */
+    private static final int ROUNDS = 2;
     private static final ThreadMXBean THREADS = (ThreadMXBean) ManagementFactory.getThreadMXBean();
     private static final Due due = new Due("RoomTest");
 
-    public static void main(String[] args) {
-        long id = Thread.currentThread().getId();
-        PawnLane x = Due.lane("s90u11h22w33a44v55 t011t122t233t344t455t501");
-        every(x);
-        long before = THREADS.getThreadAllocatedBytes(id);
-        PawnLane y = new PawnLane();
-        long one = THREADS.getThreadAllocatedBytes(id) - before;
-        due.holds("an object of " + one + " bytes is small", one < MOST_BYTES_OF_ONE);
-        before = THREADS.getThreadAllocatedBytes(id);
-        long digest = 0;
-        for (int i = 0; i < 100; i++) {
-            digest += every(x) + every(y);
+    public static void main(String[] args) throws IllegalAccessException {
+        PawnLane[] lanes = new PawnLane[50];
+        for (int i = 0; i < lanes.length; i++) {
+            lanes[i] = i % 2 == 0 ? Due.lane("s90u11h22w33a44v55 t011t122t233t344t455t501") : new PawnLane();
         }
-        long made = THREADS.getThreadAllocatedBytes(id) - before;
-        due.holds("calls made " + made + " bytes (" + digest + ")", made < 1000);
+        parts(lanes[0]);
+        parts(lanes[1]);
+        // the machine's own making, at the first round of all, is not the class's
+        every(Due.lane("s90s11"));
+        long before = made();
+        long digest = 0;
+        for (PawnLane x : lanes) {
+            for (int round = 0; round < ROUNDS; round++) {
+                digest += every(x);
+            }
+        }
+        long bytes = made() - before;
+        due.holds("calls made " + bytes + " bytes (" + digest + ")", bytes < 1000);
+        parts(lanes[0]);
         due.end();
+    }
+
+    private static long made() {
+        return THREADS.getThreadAllocatedBytes(Thread.currentThread().getId());
+    }
+
+    /** Walks all that hangs on an object. */
+    private static void parts(PawnLane x) throws IllegalAccessException {
+        List<Object> parts = new ArrayList<>();
+        parts.add(x);
+        int fields = 0;
+        for (int i = 0; i < parts.size(); i++) {
+            Object part = parts.get(i);
+            fields += part.getClass().isArray() ? elementsOf(part, parts) : fieldsOf(part, parts);
+        }
+        due.holds("objects and arrays: " + parts.size(), parts.size() <= MOST_OBJECTS);
+        due.holds("fields and elements: " + fields, fields <= MOST_FIELDS);
+    }
+
+    private static int elementsOf(Object array, List<Object> parts) {
+        int size = Array.getLength(array);
+        for (int i = 0; i < size && !array.getClass().getComponentType().isPrimitive(); i++) {
+            add(Array.get(array, i), parts);
+        }
+        return size;
+    }
+
+    private static int fieldsOf(Object part, List<Object> parts) throws IllegalAccessException {
+        int fields = 0;
+        for (Field f : part.getClass().getDeclaredFields()) {
+            if (Modifier.isStatic(f.getModifiers())) {
+                continue;
+            }
+            fields++;
+            if (!f.getType().isPrimitive()) {
+                f.setAccessible(true);
+                add(f.get(part), parts);
+            }
+        }
+        return fields;
+    }
+
+    private static void add(Object part, List<Object> parts) {
+        for (Object known : parts) {
+            if (known == part) {
+                return;
+            }
+        }
+        if (part != null) {
+            parts.add(part);
+        }
     }
 
     private static long every(PawnLane x) {
